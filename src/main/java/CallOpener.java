@@ -707,7 +707,7 @@ public final class CallOpener {
         private void takeTokens(int[] text, int size) {
             tokens = 0;
             int from = 0;
-            while (from < size) {
+            for (int turn = 0; turn < size && from < size; turn++) {
                 int c = text[from];
                 starts[tokens] = from;
                 if (isLetter(c)) {
