@@ -49,10 +49,25 @@ public final class ProgramTest {
         Check.due("arguments stay", x.run(0, 1), 7);
         Check.due("empty program", x.program(0), 0);
         Check.due("no functions", x.count(0), 0);
+        dueCutTexts();
         CallOpener y = new CallOpener();
         Check.feed(y, " ".repeat(420));
         Check.due("n above 400", y.program(401), -1);
         Check.due("n of 400", y.program(400), 0);
+    }
+
+    /** Tokens end where the text does, whatever the tape has behind it. */
+    private static void dueCutTexts() {
+        CallOpener x = new CallOpener();
+        Check.feed(x, "fun a(){x=1234;}");
+        Check.due("a number cut", x.program(12), -1012);
+        Check.feed(x, "fun a(){abcdefghi=1;}");
+        Check.due("a word cut", x.program(14), -1014);
+        Check.feed(x, "fun a(){x=a(1);}");
+        Check.due("a sign cut", x.program(11), -1011);
+        Check.dueFault("(".repeat(400), 1, 0);
+        Check.dueFault("fun a(){" + "}".repeat(392), 1, 9);
+        Check.dueFault("fun a(){" + "x=1;".repeat(20) + " ".repeat(312), 1, 400);
     }
 
     private static void faultsOfPlace() {
@@ -175,6 +190,9 @@ public final class ProgramTest {
         Check.dueAll("function 1", w -> x.function(1, w), 0, 1, 2, 1, 0, 2, 1, 1, 3, 't', 'w', 'o', -1);
         Check.dueAll("function 2", w -> x.function(2, w), 1, 2, 1, 1, 0, 3, 0, 1, 5, 't', 'h', 'r', 'e', 'e', -1);
         Check.dueAll("function 3", w -> x.function(3, w), 0, 0, 0, 0, 1, 0, 0, 0, 1, 'z', -1);
+        CallOpener y = Check.with("fun zyxwvu(){}fun zyxwvt(){a=zyxwvu();}");
+        Check.dueAll("six letters", w -> y.function(0, w), 0, 0, 0, 0, 0, 0, 0, 0, 6, 'z', 'y', 'x', 'w', 'v', 'u', -1);
+        Check.due("the other", y.function(1, 14), 't');
         Check.due("no such what", x.function(0, -1), -1);
         Check.due("no such what", x.function(0, Integer.MIN_VALUE), -1);
         Check.due("no such what", x.function(0, Integer.MAX_VALUE), -1);

@@ -130,6 +130,10 @@ public final class ResultTest {
         dueFolded("fun f(p){if 1{}else{loop p{a=1;}}give a;}", 0, 1, 2, 1, 0, 1);
         dueFolded("fun f(p){if p{if 1{a=3;}else{a=4;}}else{a=3;}a=a+1;give a;}", 1, 1, 1, 1, 4, 1);
         dueFolded("fun f(p){a=0-1;loop a{b=b+1;}loop p{c=d+1;}give b;}", 2, 0, 1, 1, 0, 3);
+        dueFolded("fun f(p){loop p{a=1;}b=b+1;give b;}", 1, 0, 0, 1, 1, 1);
+        dueFolded("fun f(p,q){if q{p=1;}else{p=2;}give p;}", 0, 0, 0, 0, 0, 0);
+        dueFolded("fun f(p,q){if q{p=1;}else{p=1;}give p;}", 0, 0, 0, 1, 1, 1);
+        dueFolded("fun f(p,q){if q{p=1;}give p;}", 0, 0, 0, 0, 0, 0);
         // a line that is NEVER done is for its VARIABLE all the same, as the loop begins
         dueFolded("fun f(p){loop p{if 0{a=1;}b=a+1;}give a;}", 0, 1, 1, 0, 0, 0);
         CallOpener x = countedWith("fun f(p){a=g(4);b=a+1;give b;}fun g(c){d=c*c;give d;}", 0);

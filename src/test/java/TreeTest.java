@@ -163,6 +163,8 @@ public final class TreeTest {
         dueBest(x, 10, 120, 10);
         dueBest(x, 300, 120, 10);
         Check.due("calls", x.best(0, 0, 2), 3);
+        CallOpener y = countedWith("fun a(){b=c();}fun c(){}", 0);
+        dueBest(y, 0, 10, 0);
         x.set(1, 3);
         dueBest(x, 8, 10, 2);
         dueBest(x, 10, 15, 10);
