@@ -86,10 +86,42 @@ public final class LanguageTest {
         Check.due("objects above 1000", seen.size() > 1000 ? 1 : 0, 0);
     }
 
+    /** The dearest calls there are, once the object is made: they make next to nothing. */
+    private static void dueNothingMade() {
+        StringBuilder text = new StringBuilder("fun f(n){if n{n=n-1;");
+        for (int k = 0; k < 16; k++) {
+            text.append("x=f(n);");
+        }
+        CallOpener x = Check.countedWith(text.append("}}").toString(), 1);
+        long before = made();
+        for (int i = 0; i < 60; i++) {
+            x.set(0, 300 - i % 2);
+            x.line(0, 297, 0);
+            x.after(0, 2);
+            x.saved(0);
+            x.folded(0, 5);
+            x.best(0, 300, 0);
+            x.would(0, 3, 0, 0);
+            x.program(0 - i);
+        }
+        long bytes = made() - before;
+        System.out.println("LanguageTest: 480 dear calls make " + bytes + " bytes");
+        Check.due("bytes above 20000", bytes > 20000 ? 1 : 0, 0);
+    }
+
+    private static long made() {
+        java.lang.management.ThreadMXBean threads = java.lang.management.ManagementFactory.getThreadMXBean();
+        if (threads instanceof com.sun.management.ThreadMXBean) {
+            return ((com.sun.management.ThreadMXBean) threads).getThreadAllocatedBytes(Thread.currentThread().getId());
+        }
+        return 0;
+    }
+
     public static void main(String[] args) throws Exception {
         dueFace();
         dueLanguage();
         dueRoom();
+        dueNothingMade();
         Check.end("LanguageTest");
     }
 }
