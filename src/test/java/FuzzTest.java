@@ -8,6 +8,8 @@ public final class FuzzTest {
     private static int largest = 0;
     private static int undone = 0;
     private static int stops = 0;
+    private static int largeBests = 0;
+    private static int fullBests = 0;
 
     private CallOpener x = new CallOpener();
     private Model m = new Model();
@@ -273,9 +275,8 @@ public final class FuzzTest {
         due("would " + f + " " + k + " " + v + " " + w, x.would(f, k, v, w), m.would(f, k, v, w));
         long many = x.best(f, 0, 2);
         due("best many " + f, many, m.best(f, 0, 2));
-        if (many > 14) {
-            return;
-        }
+        largeBests += many > Model.MOST_TRIED ? 1 : 0;
+        fullBests += many == 32 ? 1 : 0;
         int room = r.nextInt(4) == 0 ? r.nextInt(310) - 5 : r.nextInt(60);
         for (int what = -1; what <= 3; what++) {
             due("best " + f + " " + room + " " + what, x.best(f, room, what), m.best(f, room, what));
@@ -334,9 +335,7 @@ public final class FuzzTest {
         due("would " + f + " " + b + " " + c + " " + a, x.would(f, b, c, a), m.would(f, b, c, a));
         due("left " + f + " " + a + " " + b, x.left(f, a, b), m.left(f, a, b));
         due("swap " + a + " " + c, x.swap(a, c), m.swap(a, c));
-        if (x.best(f, 0, 2) <= 14) {
-            due("best " + f + " " + a + " " + b, x.best(f, a, b), m.best(f, a, b));
-        }
+        due("best " + f + " " + a + " " + b, x.best(f, a, b), m.best(f, a, b));
     }
 
     private void play() {
@@ -366,7 +365,7 @@ public final class FuzzTest {
         }
         System.out.println("FuzzTest: " + asked + " answers, " + wrong + " wrong; faults by number "
             + java.util.Arrays.toString(FAULTS) + ", largest tree " + largest + ", trees with undone ones " + undone
-            + ", stops " + stops);
+            + ", stops " + stops + ", bests of more than 14 calls " + largeBests + ", of 32 " + fullBests);
         if (wrong != 0) {
             System.exit(1);
         }

@@ -1010,7 +1010,7 @@ final class Model {
         return found.size() > 32 ? new ArrayList<>(found.subList(0, 32)) : found;
     }
 
-    /** Every set is tried, so callers ask only where there are few. */
+    /** Every set is tried, where there are few. */
     void tryAll(List<Node> all, int k, Set<Node> in, int room) {
         if (k == all.size()) {
             long gain = in.stream().mapToLong(n -> n.gain).sum();
@@ -1040,8 +1040,47 @@ final class Model {
         }
         bestGain = 0;
         bestAdds = 0;
-        tryAll(all, 0, new HashSet<>(), room);
+        if (all.size() <= MOST_TRIED) {
+            tryAll(all, 0, new HashSet<>(), room);
+        } else {
+            long[] gains = gainsBelow(all, all.get(0).above);
+            for (int adds = 0; adds <= room; adds++) {
+                if (gains[adds] > bestGain) {
+                    bestGain = gains[adds];
+                    bestAdds = adds;
+                }
+            }
+        }
         return what == 0 ? bestGain : bestAdds;
+    }
+
+    static final int MOST_TRIED = 14;
+    static final long IMPOSSIBLE = Long.MIN_VALUE / 4;
+
+    /** For ADDS of exactly 0, 1, .. 300: the greatest GAIN of sets of calls below a node, where many are to be tried. */
+    static long[] gainsBelow(List<Node> all, Node above) {
+        long[] gains = new long[301];
+        Arrays.fill(gains, IMPOSSIBLE);
+        gains[0] = 0;
+        for (Node n : all) {
+            if (n.above == above) {
+                gains = either(gains, gainsBelow(all, n), n.fun.adds(), n.gain);
+            }
+        }
+        return gains;
+    }
+
+    /** Those ahead alone, or with one more and what is best below that. */
+    static long[] either(long[] ahead, long[] below, int adds, long gain) {
+        long[] both = ahead.clone();
+        for (int a = 0; a <= 300; a++) {
+            for (int b = 0; a + b + adds <= 300; b++) {
+                if (ahead[a] > IMPOSSIBLE && below[b] > IMPOSSIBLE) {
+                    both[a + b + adds] = Math.max(both[a + b + adds], ahead[a] + below[b] + gain);
+                }
+            }
+        }
+        return both;
     }
 
     int would(int f, int k, int v, int what) {
